@@ -104,7 +104,7 @@ public final class DoorFleet {
     private static final int OR = 4;
     private static final int AND = 5;
     private static final int BEYOND = 1_000_000_000;
-    private static final int BROKEN = Integer.MIN_VALUE;
+    private static final int BROKEN = -2_000_000_000;
 
     private final Isle isle = new Isle();
     private final Isle[] images = new Isle[IMAGES];
@@ -553,16 +553,15 @@ public final class DoorFleet {
 
     /** A launching, a sailing, .. by a call of its own. */
     private int deed(int kind, int door, int to) {
+        int by = refusal(kind, door, to);
+        if (by != 0) return refuse(by);
         int answer = act(kind, door, to);
-        if (answer < 0) return refuse(answer);
         trail.trim();
         return granted(answer);
     }
 
-    /** Does it, if it can be, and keeps what stood ahead of it; below 0: what it is REFUSED by. */
+    /** Does what is not REFUSED, and keeps what stood ahead of it. */
     private int act(int kind, int door, int to) {
-        int by = refusal(kind, door, to);
-        if (by != 0) return by;
         trail.keep(kind, isle);
         switch (kind) {
             case LAUNCH:
@@ -588,6 +587,7 @@ public final class DoorFleet {
         }
     }
 
+    /** What it would be REFUSED by; 0: it can be. */
     private int refusal(int kind, int door, int to) {
         if (kind == TIDE) return isle.day < LAST_DAY ? 0 : NOT_NOW;
         if (kind == SAIL && (to < 1 || to > 4)) return BAD_NUMBER;
@@ -614,8 +614,8 @@ public final class DoorFleet {
         int to = second == NONE ? NONE : judge.value(text, second);
         if (to == BROKEN) return false;
         int kind = text.told(clause, VERB);
+        if (refusal(kind, door, to) != 0) return false;
         int answer = act(kind, door, to);
-        if (answer < 0) return false;
         ordered++;
         if (kind == FISH) lastCaught = answer;
         return true;
@@ -1233,6 +1233,8 @@ public final class DoorFleet {
         private static final int HANGS = 16;
         private static final int SETS = 1 << HOUSES;
         private static final int WAYS = 1 << SEARCHED;
+        // More steps than any row of CELLS needs.
+        private static final int FARTHEST = SEARCHED * 2 * SIDE;
 
         // For each DOOR and each HOUSE or FOE what the pair is worth; NONE: it can't be.
         private final int[] worth = new int[DOORS * HOUSES];
@@ -1353,7 +1355,7 @@ public final class DoorFleet {
             for (int last = 0; last <= many; last++) way[last * WAYS] = 0;
             for (int set = 1; set < sets; set++) {
                 for (int last = 0; last <= many; last++) {
-                    int least = Integer.MAX_VALUE;
+                    int least = FARTHEST;
                     for (int i = 0; i < many; i++) {
                         if ((set >> i & 1) == 1) least = Math.min(least, stepsBy(last, i, set, many));
                     }
