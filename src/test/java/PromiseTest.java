@@ -200,7 +200,9 @@ public final class PromiseTest {
         granted("fish", x.put(24, 0, 99), 10);
         due("undoable", x.count(6), 0);
         granted("fish", x.put(24, 0, 0), 99);
+        x.fish(0);
         granted("drift", x.put(24, 1, 4), 0);
+        due("undoable", x.count(6), 0);
         granted("drift", x.put(24, 1, 0), 4);
         x.fish(0);
         refused("cell 25", x.put(25, 0, 0), -1);
@@ -297,7 +299,9 @@ public final class PromiseTest {
         granted("day", x.terms(0, 999), 0);
         due("undoable", x.count(6), 0);
         granted("day", x.terms(0, 0), 999);
+        x.fish(0);
         granted("mood", x.terms(1, 9), 0);
+        due("undoable", x.count(6), 0);
         granted("mood", x.terms(1, 4), 9);
         x.fish(0);
         refused("day 1000", x.terms(0, 1000), -1);
@@ -377,6 +381,11 @@ public final class PromiseTest {
         due("foam", x.foam(), 3);
         Check.tell(x, "x");
         granted("foam alone", x.row(), 0);
+        x.feed(0, 0, 0, 0, 0);
+        x.end(9);
+        granted("the bytes behind the end are none", x.row(), 4);
+        due("cell 4 as it was", x.at(4, 0), 10);
+        due("foam", x.foam(), 1);
         for (int i = 0; i < 20; i++) x.feed(0, 0, 0, 0, 0);
         granted("25 cells", x.row(), 25);
         due("behind cell 24", x.foam(), 175);
@@ -445,6 +454,15 @@ public final class PromiseTest {
         lawFault("fits if   ", 10);
         lawFault("fits 1", 5);
         lawFault("bars times 2", 5);
+        lawFault("fits if" + " ".repeat(393), 400);
+        lawFault("!".repeat(400), 0);
+        lawFault("fits" + " ".repeat(396), -1);
+        lawFault("fits" + " ".repeat(395) + ";", 400);
+        lawFault("fits if " + "not ".repeat(97) + "1=1", -1);
+        lawFault("slams " + "[".repeat(394), 14);
+        lawFault("1".repeat(400), 0);
+        lawFault("slams " + "0".repeat(394), -1);
+        lawFault("slams " + "0".repeat(390) + "1001", 6);
         lawFault("fits;", 5);
         lawFault("fits;;fits", 5);
         lawFault(";fits", 0);
