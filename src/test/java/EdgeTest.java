@@ -1216,6 +1216,20 @@ public final class EdgeTest extends Edge {
         due(x -> x.drawn(24, 2), 11);
         granted(x -> x.summers(0, 1), 0);
         due(x -> x.drawn(24, 2), 79);
+        // A DOOR that came behind them was not in them; one that an IMAGE has not was.
+        hung(5);
+        does(x -> x.house(5));
+        does(x -> x.image(0));
+        does(x -> x.summers(0, 1));
+        does(x -> x.door(5, 0, 1, 0));
+        due(x -> x.drawn(0, 1), 0);
+        none(x -> x.drawn(1, 0));
+        none(x -> x.drawn(1, 1));
+        does(x -> x.launch(1));
+        does(x -> x.summers(0, 1));
+        does(x -> x.back(0));
+        due(x -> x.count(1), 1);
+        due(x -> x.drawn(1, 1), 10);
     }
 
     private static void image() {

@@ -4,6 +4,7 @@ public final class TermsTest extends Edge {
         houses();
         doors();
         doorsStand();
+        doorsOfOneHouse();
         sea();
         foesAndTerms();
         refusedBy();
@@ -27,6 +28,7 @@ public final class TermsTest extends Edge {
         draws();
         summersRun();
         summersDraw();
+        summersByLaw();
         rows();
         imagesKeep();
         imagesApart();
@@ -134,6 +136,41 @@ public final class TermsTest extends Edge {
         due(x -> x.frame(1, 1), -1);
         granted(x -> x.door(5, 0, 1, 0), 1);
         due(x -> x.frame(1, 1), 1);
+    }
+
+    /** There may be more DOORS than HOUSES. */
+    private static void doorsOfOneHouse() {
+        says("Terms I", "DOORS 0 .. 7 (8 at most)");
+        fresh(5);
+        for (int d : upTo(8)) {
+            granted(x -> x.door(5, 0, 0, d), d);
+            does(x -> x.launch(d));
+        }
+        does(x -> x.foe(4));
+        due(x -> x.at(0, 2), 8);
+        due(x -> x.heard(0, 6), 255);
+        due(x -> x.knock(1), 3);
+        due(x -> x.share(7, 6), 1);
+        due(x -> x.share(7, 7), 0);
+        due(x -> x.hanging(0), 1);
+        due(x -> x.hanging(2), 0);
+        due(x -> x.hanging(9), 100);
+        due(x -> x.battle(1), 0);
+        due(x -> x.battle(8), 100);
+        does(x -> x.sail(7, 2));
+        does(x -> x.foe(4));
+        due(x -> x.battle(2), 1);
+        rule("catches 1;slams 0");
+        granted(x -> x.summers(0, 1), 0);
+        for (int d : upTo(8)) due(x -> x.drawn(d, 1), 1);
+        does(x -> x.sail(7, 4));
+        granted(x -> x.hang(7, 0), 0);
+        due(x -> x.fleet(1, 1), 128);
+        due(x -> x.frame(0, 1), 7);
+        does(x -> x.put(0, 1, 1));
+        granted(x -> x.tide(), 7);
+        due(x -> x.count(4), 7);
+        due(x -> x.of(7, 7), 0);
     }
 
     /** Where DOOR 0 is: the HOUSE, the CELL, whether LOST. */
@@ -329,6 +366,19 @@ public final class TermsTest extends Edge {
         due(x -> x.at(0, 0), 1);
         due(x -> x.of(0, 6), 30);
         due(x -> x.at(1, 0), 10);
+        does(x -> x.put(9, 0, 25));
+        for (int by : new int[] {2, 2, 2, 2, 3}) does(x -> x.sail(0, by));
+        granted(x -> x.fish(0), 15);
+        due(x -> x.at(9, 0), 10);
+        due(x -> x.at(0, 0), 1);
+        due(x -> x.of(0, 6), 45);
+        rule("catches cell");
+        granted(x -> x.fish(0), 9);
+        granted(x -> x.fish(0), 1);
+        launched(5);
+        does(x -> x.put(0, 0, 30));
+        does(x -> x.fish(0));
+        does(x -> x.fish(0));
         rule("catches 99");
         for (int n = 0; n < 9; n++) {
             does(x -> x.put(0, 0, 99));
@@ -524,6 +574,9 @@ public final class TermsTest extends Edge {
         does(x -> x.launch(1));
         does(x -> x.door(6, 0, 0, 0));
         hangs(1, 1, 100, 0, 100);
+        fresh(9, 9, 5);
+        does(x -> x.door(5, 0, 0, 0));
+        hangs(1, 0, 2);
         fresh();
         hangs(0, 0);
     }
@@ -782,6 +835,9 @@ public final class TermsTest extends Edge {
         hung(9, 1, 9);
         does(x -> x.launch(1));
         shared(7, -1, 7, -1);
+        hung(9, 1, 1, 9);
+        for (int d : new int[] {1, 2}) does(x -> x.launch(d));
+        shared(7, -1, 4, 3, -1);
     }
 
     private static void shared(int whale, int... parts) {
@@ -886,6 +942,22 @@ public final class TermsTest extends Edge {
         granted(x -> x.summers(0, 3), 1);
         due(x -> x.drawn(0, 0), 0);
         granted(x -> x.summers(0, 4), 2);
+    }
+
+    /** The LAW is asked of the DAY and the CATCH in SUMMERS. */
+    private static void summersByLaw() {
+        says("Terms IV", "Each TIDE, as long as DAY is below 999,");
+        launched(5);
+        rule("slams 0;catches day + 1");
+        granted(x -> x.summers(0, 4), 0);
+        due(x -> x.drawn(0, 1), 10);
+        rule("slams 0;catches catch + 1");
+        granted(x -> x.summers(0, 3), 0);
+        due(x -> x.drawn(0, 1), 7);
+        rule("slams day * 10;catches 1");
+        granted(x -> x.summers(0, 1), 0);
+        granted(x -> x.summers(0, 2), 1);
+        due(x -> x.of(0, 6), 0);
     }
 
     /** DOOR 0 in the HARBOUR with such a CATCH, and 99 FISH there. */
@@ -1001,6 +1073,7 @@ public final class TermsTest extends Edge {
         due(x -> x.count(13), 0);
         due(x -> x.count(14), 50);
         due(x -> x.count(15), 6);
+        due(x -> x.of(0, 2), 0);
         due(x -> x.of(0, 5), 0);
         due(x -> x.of(0, 6), 10);
         due(x -> x.of(1, 4), 1);
@@ -1022,13 +1095,13 @@ public final class TermsTest extends Edge {
         settle(3, 7, 5, 1, 8);
         does(x -> x.image(1));
         does(x -> x.back(0));
-        settle(6, 2, 44, 3, 4);
+        settle(6, 2, 44, 2, 4);
         does(x -> x.image(0));
         for (int twice = 0; twice < 2; twice++) {
             granted(x -> x.back(1), 0);
             settled(3, 7, 5, 1, 8);
             granted(x -> x.back(0), 0);
-            settled(6, 2, 44, 3, 4);
+            settled(6, 2, 44, 2, 4);
         }
     }
 
