@@ -107,7 +107,8 @@ public final class DoorFleet {
     private static final int BROKEN = -2_000_000_000;
 
     private final Isle isle = new Isle();
-    private final Isle[] images = new Isle[IMAGES];
+    private final Isle firstImage = new Isle();
+    private final Isle secondImage = new Isle();
     private final boolean[] kept = new boolean[IMAGES];
     private final Isle summer = new Isle();
     private boolean summered = false;
@@ -124,7 +125,6 @@ public final class DoorFleet {
     private final int[] refusals = new int[5];
 
     public DoorFleet() {
-        for (int k = 0; k < IMAGES; k++) images[k] = new Isle();
     }
 
     // ---- houses, doors, the sea, foes, terms ----
@@ -486,7 +486,7 @@ public final class DoorFleet {
 
     public int image(int k) {
         if (k < 0 || k >= IMAGES) return refuse(BAD_NUMBER);
-        images[k].copyFrom(isle);
+        imageOf(k).copyFrom(isle);
         kept[k] = true;
         return granted(0);
     }
@@ -494,7 +494,7 @@ public final class DoorFleet {
     public int back(int k) {
         if (k < 0 || k >= IMAGES) return refuse(BAD_NUMBER);
         if (!kept[k]) return refuse(NOT_THERE);
-        isle.copyFrom(images[k]);
+        isle.copyFrom(imageOf(k));
         trail.count = 0;
         return granted(0);
     }
@@ -536,6 +536,10 @@ public final class DoorFleet {
         else if (by == NO_ROOM) refusals[3]++;
         else if (by == BAD_TEXT) refusals[4]++;
         return by;
+    }
+
+    private Isle imageOf(int k) {
+        return k == 0 ? firstImage : secondImage;
     }
 
     private static boolean isCell(int cell) {
@@ -847,6 +851,11 @@ public final class DoorFleet {
             length += 2;
         }
 
+        /** The jump kept at this place leads to the next step. */
+        private void land(int jump) {
+            if (jump >= 0 && jump < steps.length) steps[jump] = length;
+        }
+
         private boolean has(int verb) {
             for (int c = 0; c < clauses; c++) if (told(c, VERB) == verb) return true;
             return false;
@@ -984,7 +993,7 @@ public final class DoorFleet {
             if (next - WORD != WORD_IF) return true;
             advance();
             draft.tell(TEST, draft.length);
-            boolean can = test(0, 0);
+            boolean can = test(0);
             draft.add(STOP, 0);
             return can;
         }
@@ -1006,22 +1015,26 @@ public final class DoorFleet {
 
         private boolean sumOf(int which) {
             draft.tell(which, draft.length);
-            boolean can = sum(0, 0);
+            boolean can = sum(0);
             draft.add(STOP, 0);
             return can;
         }
 
-        /** TEST (level 0: by "or") and BOTH (level 1: by "and"). */
-        private boolean test(int level, int depth) {
-            boolean can = level == 0 ? test(1, depth) : plain(depth);
-            int joint = level == 0 ? WORD_OR : WORD_AND;
-            for (int n = 0; n < TAPE && can && next - WORD == joint; n++) {
+        /** An "and" jumps over its PLAIN alone, an "or" over all of its BOTH: up to the next "or" or the end. */
+        private boolean test(int depth) {
+            boolean can = plain(depth);
+            int latestOr = NONE;
+            for (int n = 0; n < TAPE && can && (next - WORD == WORD_OR || next - WORD == WORD_AND); n++) {
+                boolean isOr = next - WORD == WORD_OR;
                 advance();
+                if (isOr) draft.land(latestOr);
                 int jump = draft.length + 1;
-                draft.add(level == 0 ? OR : AND, 0);
-                can = level == 0 ? test(1, depth) : plain(depth);
-                if (jump < draft.steps.length) draft.steps[jump] = draft.length;
+                draft.add(isOr ? OR : AND, 0);
+                can = plain(depth);
+                if (isOr) latestOr = jump;
+                else draft.land(jump);
             }
+            draft.land(latestOr);
             return can;
         }
 
@@ -1034,32 +1047,36 @@ public final class DoorFleet {
             if (next == '(') {
                 if (depth >= BRACKETS) return false;
                 advance();
-                if (!test(0, depth + 1) || next != ')') return false;
+                if (!test(depth + 1) || next != ')') return false;
                 advance();
             } else {
-                if (!sum(0, depth)) return false;
+                if (!sum(depth)) return false;
                 int sign = next;
                 if (sign != '<' && sign != '>' && sign != '=') return false;
                 advance();
-                if (!sum(0, depth)) return false;
+                if (!sum(depth)) return false;
                 draft.add(sign, 0);
             }
             if (turned) draft.add(NOT, 0);
             return true;
         }
 
-        /** SUM (level 0: by "+", "-") and TERM (level 1: by "*", "/", "%"). */
-        private boolean sum(int level, int depth) {
-            boolean can = level == 0 ? sum(1, depth) : part(depth);
+        /** A "+" or "-" waits until the TERM behind it is whole. */
+        private boolean sum(int depth) {
+            boolean can = part(depth);
+            int waiting = NONE;
             for (int n = 0; n < TAPE && can; n++) {
                 int sign = next;
                 boolean adds = sign == '+' || sign == '-';
                 boolean multiplies = sign == '*' || sign == '/' || sign == '%';
-                if (level == 0 ? !adds : !multiplies) return true;
+                if (!adds && !multiplies) break;
                 advance();
-                can = level == 0 ? sum(1, depth) : part(depth);
-                draft.add(sign, 0);
+                if (adds && waiting != NONE) draft.add(waiting, 0);
+                if (adds) waiting = sign;
+                can = part(depth);
+                if (multiplies) draft.add(sign, 0);
             }
+            if (waiting != NONE) draft.add(waiting, 0);
             return can;
         }
 
@@ -1067,7 +1084,7 @@ public final class DoorFleet {
             if (next == '[') {
                 if (depth >= BRACKETS) return false;
                 advance();
-                if (!sum(0, depth + 1) || next != ']') return false;
+                if (!sum(depth + 1) || next != ']') return false;
                 advance();
                 return true;
             }

@@ -23,7 +23,12 @@ final class Doc {
         NAMED.add(part);
         sentence = part + ", \"" + words + "\"";
         if (PARTS.isEmpty()) return;
-        Check.is(sentence + ": stands in the document", PARTS.getOrDefault(part, "").contains(words));
+        Check.is(sentence + ": stands in the document", part(part).contains(words));
+    }
+
+    /** The words of a part, with single blanks between; none without the document. */
+    static String part(String name) {
+        return PARTS.getOrDefault(name, "");
     }
 
     static String sentence() {

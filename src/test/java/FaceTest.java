@@ -6,6 +6,8 @@ import java.util.ArrayList;
 import java.util.List;
 import java.util.Set;
 import java.util.TreeSet;
+import java.util.regex.Matcher;
+import java.util.regex.Pattern;
 
 /** The document's public face: its constant, its constructor and every method, none more. */
 public final class FaceTest {
@@ -46,12 +48,35 @@ public final class FaceTest {
             && made[0].getParameterCount() == 0);
         int kind = DoorFleet.class.getModifiers();
         Check.is("public and final", Modifier.isPublic(kind) && Modifier.isFinal(kind));
+        Doc.says("Terms IV", "The constants: NONE = -1: There is none.");
         Check.due("NONE", DoorFleet.NONE, -1);
         for (Class<?> c : DoorFleet.class.getDeclaredClasses()) {
             Check.is(c + " is static and not public",
                 Modifier.isStatic(c.getModifiers()) && !Modifier.isPublic(c.getModifiers()));
+            for (Method m : c.getDeclaredMethods()) {
+                for (String face : FACE) Check.is(m + " hides none", !face.contains(" " + m.getName() + "("));
+            }
         }
+        faceOfTheDocument(want);
         Check.finish("FaceTest");
+    }
+
+    /** The document's own lines, without the names of what a method is given. */
+    private static void faceOfTheDocument(Set<String> want) {
+        String face = Doc.part("The public face");
+        if (face.isEmpty()) return;
+        Set<String> told = new TreeSet<>();
+        Matcher m = Pattern.compile("public (int|long) (\\w+)\\(([^)]*)\\);").matcher(face);
+        while (m.find()) {
+            String given = m.group(3).replaceAll("int \\w+", "int").replace(" ", "");
+            told.add(m.group(1) + " " + m.group(2) + "(" + given + ")");
+        }
+        Check.is("the document's face " + told, told.equals(want));
+        Check.is("its constant", face.contains("public static final int NONE = -1;"));
+        for (int p = 2; p <= 43; p++) {
+            String head = Doc.part("Promise " + p).replaceAll(":.*", "").trim();
+            Check.is("promise " + p + ": " + head, face.contains("public " + head + ";"));
+        }
     }
 
     private static String told(Method m) {

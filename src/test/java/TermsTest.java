@@ -181,7 +181,7 @@ public final class TermsTest extends Edge {
     }
 
     private static void sea() {
-        says("Terms I", "CELLS 0 .. 24 (5 y and x; x, y 0 .. 4)");
+        says("Terms I", "The SEA: CELLS 0 .. 24 (5 y and x; x, y 0 .. 4)");
         fresh();
         for (int what : upTo(2)) {
             none(x -> x.at(-1, what));
@@ -494,7 +494,7 @@ public final class TermsTest extends Edge {
     // ---- III: on paper ----
 
     private static void fleets() {
-        says("Terms III", "the fewest DOORS that HANG and are not BARRED which together could CATCH so much or more at once");
+        says("Terms III", "a FLEET for a told catch: the fewest DOORS that HANG and are not BARRED which together could CATCH so much or more at once");
         hung(1, 2, 3);
         due(x -> x.fleet(0, 0), 0);
         due(x -> x.fleet(1, 0), 1);
@@ -540,7 +540,7 @@ public final class TermsTest extends Edge {
     }
 
     private static void hangingOfAll() {
-        says("Terms III", "all DOORS that are not LOST, each in a HOUSE of its own which it FITS, or in none: by which the most HANG,");
+        says("Terms III", "HANGING: all DOORS that are not LOST, each in a HOUSE of its own which it FITS, or in none: by which the most HANG,");
         fresh(5, 6);
         does(x -> x.door(4, 0, 0, 0));
         does(x -> x.door(5, 0, 1, 0));
@@ -590,7 +590,7 @@ public final class TermsTest extends Edge {
     }
 
     private static void right() {
-        says("Terms III", "swaps of DOORS of two HOUSES (one of them may be OPEN: its DOOR moves there) by which all DOORS that HANG come to be in their HOMES,");
+        says("Terms III", "RIGHT: swaps of DOORS of two HOUSES (one of them may be OPEN: its DOOR moves there) by which all DOORS that HANG come to be in their HOMES,");
         fresh();
         due(x -> x.right(), 0);
         hung(5, 5, 5, 5, 5, 5, 5, 5);
@@ -1201,7 +1201,7 @@ public final class TermsTest extends Edge {
     }
 
     private static void used() {
-        says("What it is", "An object is used for at most 512 calls after it has been made;");
+        says("What it is", "An object is used for at most 512 calls after it has been made; what later calls answer is free.");
         DoorFleet x = new DoorFleet();
         for (int n = 0; n < 510; n++) {
             int kind = n % 3;

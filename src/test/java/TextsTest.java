@@ -402,7 +402,7 @@ public final class TextsTest extends Edge {
     }
 
     private static void beyond() {
-        says("Terms II", "Beyond 1,000,000,000 either way,");
+        says("Terms II", "Beyond 1,000,000,000 either way, or");
         String most = "1000*1000*1000";
         test(most + ">0", 1);
         test("0-" + most + "<0", 1);
