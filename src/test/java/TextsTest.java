@@ -265,6 +265,26 @@ public final class TextsTest extends Edge {
         sum("1+6%4", 3);
         sum("[1+6]/2", 3);
         sum("2*[3-7]", -8);
+        for (int signs = 0; signs < 125; signs++) chain(signs);
+    }
+
+    /** Four NUMBERS joined by three of the five signs: each TERM is cut as it goes on, then added or taken off. */
+    private static void chain(int signs) {
+        int[] numbers = {17, 3, 7, 2};
+        StringBuilder text = new StringBuilder().append(numbers[0]);
+        int sum = 0;
+        int term = numbers[0];
+        for (int i = 1, left = signs; i < 4; i++, left /= 5) {
+            char sign = "+-*/%".charAt(left % 5);
+            text.append(sign).append(numbers[i]);
+            if (sign == '+' || sign == '-') {
+                sum += term;
+                term = sign == '+' ? numbers[i] : -numbers[i];
+            } else {
+                term = sign == '*' ? term * numbers[i] : sign == '/' ? term / numbers[i] : term % numbers[i];
+            }
+        }
+        sum(text.toString(), sum + term);
     }
 
     private static void numbers() {
@@ -454,6 +474,24 @@ public final class TextsTest extends Edge {
         test("not (1=2 and 1/0=1)", 1);
         test("(1/0=1) or 1=1", -1);
         test("1=1 and (1=1 and 1/0=1) or 1=1", -1);
+        for (int joints = 0; joints < 8; joints++) for (int plains = 0; plains < 81; plains++) chain(joints, plains);
+    }
+
+    /** Four PLAINS joined by "or" (a bit of joints) or "and", each so, not so or BROKEN. */
+    private static void chain(int joints, int plains) {
+        String[] kinds = {"1/0=1", "1=2", "1=1"};
+        StringBuilder text = new StringBuilder();
+        int all = 0;
+        int both = 1;
+        for (int i = 0, left = plains; i < 4; i++, left /= 3) {
+            boolean or = i == 0 || (joints >> i - 1 & 1) == 1;
+            if (i > 0) text.append(or ? " or " : " and ");
+            text.append(kinds[left % 3]);
+            if (or && all == 0 && i > 0) all = both;
+            if (or) both = 1;
+            if (both == 1) both = left % 3 - 1;
+        }
+        test(text.toString(), all == 0 ? both : all);
     }
 
     // ---- LAWS ----
