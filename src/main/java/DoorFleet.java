@@ -1256,6 +1256,7 @@ public final class DoorFleet {
         // For each DOOR and each HOUSE or FOE what the pair is worth; NONE: it can't be.
         private final int[] worth = new int[DOORS * HOUSES];
         private final int[] best = new int[(DOORS + 1) * SETS];
+        // The fewest steps from a CELL (the HARBOUR last) through a set of CELLS; through none always 0.
         private final int[] way = new int[(SEARCHED + 1) * WAYS];
         private final int[] told = new int[SEARCHED];
         private final int[] catches = new int[DOORS];
@@ -1369,7 +1370,6 @@ public final class DoorFleet {
                 }
             }
             int sets = 1 << many;
-            for (int last = 0; last <= many; last++) way[last * WAYS] = 0;
             for (int set = 1; set < sets; set++) {
                 for (int last = 0; last <= many; last++) {
                     int least = FARTHEST;

@@ -966,6 +966,17 @@ public final class EdgeTest extends Edge {
         does(x -> x.launch(2));
         does(x -> x.hang(2, 0));
         due(x -> x.right(), 2);
+        // Each HOUSE as the one HOME of two.
+        for (int home : upTo(8)) {
+            int other = (home + 3) % 8;
+            fresh(5, 5, 5, 5, 5, 5, 5, 5);
+            does(x -> x.door(5, 0, home, 0));
+            does(x -> x.launch(0));
+            does(x -> x.hang(0, other));
+            due(x -> x.right(), 1);
+            does(x -> x.door(5, 0, home, 0));
+            none(x -> x.right());
+        }
     }
 
     private static void heard() {

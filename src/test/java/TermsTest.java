@@ -664,6 +664,11 @@ public final class TermsTest extends Edge {
         does(x -> x.door(5, 0, 1, 58));
         due(x -> x.knock(1), 3);
         due(x -> x.knock(0), 2);
+        fresh(5, 5);
+        does(x -> x.door(5, 0, 0, 63));
+        does(x -> x.door(5, 0, 1, 62));
+        due(x -> x.knock(0), 0);
+        due(x -> x.knock(1), 5);
     }
 
     private static void wrecks() {
@@ -704,6 +709,9 @@ public final class TermsTest extends Edge {
         searched(1 << 6 | 1 << 2, 4, 2, 6);
         searched(1 | 1 << 2 | 1 << 24, 8, 0, 2, 24);
         searched(0b11111110, 8, 1, 5, 6, 7, 2, 3, 4);
+        // No seven CELLS take more steps than these.
+        searched(1 << 4 | 1 << 7 | 1 << 11 | 1 << 13 | 1 << 17 | 1 << 20 | 1 << 24, 20, 4, 7, 11, 13, 17, 20, 24);
+        searched(1 << 4 | 1 << 8 | 1 << 12 | 1 << 16 | 1 << 18 | 1 << 20 | 1 << 24, 18, 4, 8, 12, 16, 18, 24, 20);
         none(x -> x.search(0b111111110, -1));
         none(x -> x.search(0b111111110, 0));
     }
@@ -759,6 +767,22 @@ public final class TermsTest extends Edge {
         does(x -> x.door(5, 0, 7, 0));
         due(x -> x.guards(0), 0);
         due(x -> x.guards(1), 0);
+        for (int n : upTo(9)) for (int open : upTo(1 << n)) guarded(n, open);
+    }
+
+    /** So many HOUSES, these (bits) OPEN: every set of guards is tried. */
+    private static void guarded(int houses, int open) {
+        fresh("5".repeat(houses));
+        for (int h : upTo(houses)) if ((open >> h & 1) == 0) does(x -> x.door(5, 0, h, 0));
+        int best = (1 << houses) - 1;
+        for (int set : upTo(1 << houses)) {
+            boolean all = true;
+            for (int h : upTo(houses)) all &= (open >> h & 1) == 0 || (set << 1 >> h & 7) != 0;
+            if (all && Integer.bitCount(set) < Integer.bitCount(best)) best = set;
+        }
+        int lowest = best;
+        due(x -> x.guards(0), Integer.bitCount(lowest));
+        due(x -> x.guards(1), lowest);
     }
 
     /** HOUSES of SIZES told as digits ("" has none). */

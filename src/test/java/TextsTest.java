@@ -118,6 +118,7 @@ public final class TextsTest extends Edge {
         law("slams " + " ".repeat(389) + "catch", -1);
         law("slams" + " ".repeat(391) + "home", -1);
         law(" ".repeat(398) + "fi", 398);
+        law(" ".repeat(399) + "!", 399);
         orders("tide" + " ".repeat(396), -1);
         orders("tide" + " ".repeat(395) + "!", 399);
     }
