@@ -33,6 +33,8 @@ public final class TermsTest extends Edge {
         imagesKeep();
         imagesApart();
         fewerAgain();
+        imagesOfEachCell();
+        imagesOfSixLaws();
         imagesDoNotKeep();
         used();
         for (String part : new String[] {"I", "III", "IV"}) Doc.mustBeNamed("Terms " + part);
@@ -743,6 +745,14 @@ public final class TermsTest extends Edge {
         due(x -> x.afloat(0, 2), 420_000_000_000L);
         due(x -> x.afloat(0, 3), 0);
         does(x -> x.put(0, 1, 0));
+        does(x -> x.sail(0, 3));
+        rule("slams 5;slams 2 if cell = 5;slams 4 if cell = 10");
+        does(x -> x.put(5, 1, 3));
+        due(x -> x.afloat(0, 1), 800_000_000_000L);
+        due(x -> x.afloat(0, 2), 480_000_000_000L);
+        due(x -> x.afloat(0, 3), 288_000_000_000L);
+        does(x -> x.sail(0, 1));
+        rule("slams cell + 3");
         long chance = 1_000_000_000_000L;
         for (int n = 0; n <= 60; n++) {
             int tides = n;
@@ -1182,6 +1192,55 @@ public final class TermsTest extends Edge {
         due(x -> x.of(1, 4), 3);
         granted(x -> x.foe(1), 0);
         due(x -> x.battle(0), 1);
+    }
+
+    private static void imagesOfEachCell() {
+        says("Terms IV", "BACK to one all that it keeps is as it was then (IMAGES stay).");
+        fresh();
+        for (int k : upTo(2)) {
+            for (int c : upTo(25)) {
+                does(x -> x.put(c, 0, 3 * c + k));
+                does(x -> x.put(c, 1, (c + k) % 5));
+            }
+            does(x -> x.image(k));
+        }
+        for (int c : upTo(25)) {
+            does(x -> x.put(c, 0, 99));
+            does(x -> x.put(c, 1, 0));
+        }
+        for (int k : upTo(2)) {
+            granted(x -> x.back(k), 0);
+            for (int c : upTo(25)) {
+                due(x -> x.at(c, 0), 3 * c + k);
+                due(x -> x.at(c, 1), (c + k) % 5);
+            }
+        }
+    }
+
+    /** Six LAWS in each IMAGE, each of them in FORCE; the paper of SUMMERS has them, too. */
+    private static void imagesOfSixLaws() {
+        says("Terms IV", "BACK to one all that it keeps is as it was then (IMAGES stay).");
+        launched(9);
+        does(x -> x.put(0, 0, 99));
+        does(x -> x.image(0));
+        for (int k = 1; k >= 0; k--) {
+            int image = k;
+            does(x -> x.back(0));
+            for (int l : upTo(6)) rule("slams 0;catches " + (10 * l + 3 + image));
+            does(x -> x.image(image));
+        }
+        for (int k = 1; k >= 0; k--) {
+            int image = k;
+            granted(x -> x.back(image), 0);
+            due(x -> x.count(5), 6);
+            due(x -> x.count(13), 5);
+            for (int l : upTo(6)) {
+                does(x -> x.force(l));
+                due(x -> x.asks(0, 0, 0), 10 * l + 3 + image);
+                granted(x -> x.summers(0, 1), 0);
+                due(x -> x.drawn(0, 1), 10 * l + 3 + image);
+            }
+        }
     }
 
     private static void imagesDoNotKeep() {

@@ -33,6 +33,7 @@ public final class TextsTest extends Edge {
         facts();
         stops();
         longestOrders();
+        longestBehindSixteen();
         manyTexts();
         Doc.mustBeNamed("Terms II");
         Check.finish("TextsTest");
@@ -950,6 +951,33 @@ public final class TextsTest extends Edge {
         due(x -> x.of(0, 6), 99);
         ended("tide times 20;" + again(there, 5, ";") + ";sail 0 by 2 times 5", 11);
         due(x -> x.count(14), 220);
+    }
+
+    /** Sixteen that can be undone ahead of 240 ORDERS: the last of them can't be (at DAY 999), then all can. */
+    private static void longestBehindSixteen() {
+        says("Terms II", "ends it: all is as it was ahead of it.");
+        launched(5);
+        does(x -> x.terms(0, 752));
+        for (int n : upTo(16)) does(x -> n % 2 == 0 ? x.tide() : x.fish(0));
+        ended(again("tide times 20", 12, ";"), 11);
+        due(x -> x.count(14), 760);
+        for (int n = 15; n >= 0; n--) {
+            int left = n;
+            due(x -> x.count(6), left + 1);
+            granted(x -> x.undo(), left % 2 == 0 ? 4 : 2);
+        }
+        refused(x -> x.undo(), -3);
+        due(x -> x.count(14), 752);
+        due(x -> x.of(0, 6), 0);
+        does(x -> x.terms(0, 751));
+        for (int n : upTo(16)) does(x -> n % 2 == 0 ? x.tide() : x.fish(0));
+        ran(again("tide times 20", 12, ";"), 240);
+        due(x -> x.count(14), 999);
+        for (int n : upTo(16)) {
+            granted(x -> x.undo(), 4);
+            due(x -> x.count(14), 998 - n);
+        }
+        refused(x -> x.undo(), -3);
     }
 
     /** One TEXT leaves nothing to the next: sixty of the longest kind in one object. */
