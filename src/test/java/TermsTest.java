@@ -840,6 +840,14 @@ public final class TermsTest extends Edge {
         does(x -> x.foe(3));
         does(x -> x.foe(8));
         fought(2, 1, 0);
+        // More FOES than HOUSES, fewer than DOORS.
+        hung(5);
+        for (int strong : new int[] {9, 8, 7, 6, 5, 6, 7, 4}) does(x -> x.foe(strong));
+        fought(1, 7);
+        hung(2, 3, 4, 5, 6, 7, 8, 9);
+        does(x -> x.foe(8));
+        due(x -> x.hanging(0), 8);
+        fought(1, 100, 100, 100, 100, 100, 100, 100, 0);
     }
 
     /** A BATTLE: the wins, the row. */

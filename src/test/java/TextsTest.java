@@ -268,6 +268,15 @@ public final class TextsTest extends Edge {
         sum("[1+6]/2", 3);
         sum("2*[3-7]", -8);
         for (int signs = 0; signs < 125; signs++) chain(signs);
+        // As much as can wait at once: a TERM and a PART ahead of each of eight brackets.
+        hung(9);
+        String deep = "1+2*[".repeat(8) + "1+2*3" + "]".repeat(8);
+        ran("tide if " + deep + "=1000*2+47", 1);
+        ran("tide if 1000*2+47=" + deep, 1);
+        ran("tide if 1000*2+46=" + deep, 0);
+        does(x -> x.put(0, 0, 99));
+        rule("catches " + deep + "-1000*2");
+        due(x -> x.asks(0, 0, 0), 47);
     }
 
     /** Four NUMBERS joined by three of the five signs: each TERM is cut as it goes on, then added or taken off. */
@@ -713,6 +722,16 @@ public final class TextsTest extends Edge {
         refused(x -> x.launch(0), -3);
         does(x -> x.force(0));
         granted(x -> x.launch(0), 0);
+        // DOOR 0 HANGS in HOUSE 2, DOOR 1 in HOUSE 0.
+        fresh(5, 6, 7);
+        does(x -> x.door(6, 1, 2, 0));
+        does(x -> x.door(4, 3, 0, 0));
+        rule("bars if door=0 and wide=6 and wood=1 and home=2 and house=2 and size=7");
+        due(x -> x.of(0, 8), 1);
+        due(x -> x.of(1, 8), 0);
+        rule("bars if door=1 and wide=4 and wood=3 and home=0 and house=0 and size=5");
+        due(x -> x.of(0, 8), 0);
+        due(x -> x.of(1, 8), 1);
     }
 
     // ---- ORDERS ----
